@@ -918,7 +918,7 @@ public final class MireWrestle {
                 who[state] = NEITHER;
                 moves[state] = NONE;
             }
-            // Each round that settles a STATE is followed by one more at most: so STATES rounds do.
+            // A round that settles no STATE leaves none for the next to settle: so STATES rounds are enough.
             for (int round = 0; round < STATES; round++) {
                 for (int state = 0; state < STATES; state++) {
                     if (who[state] == NEITHER) {
@@ -938,7 +938,7 @@ public final class MireWrestle {
             }
         }
 
-        /** The least STATE of a set for that one who moves, settled before the round. */
+        /** The least STATE of a set where he who moves is settled so before the round. */
         private int leastSettled(int set, int asWho, int round) {
             for (int state = 0; state < STATES; state++) {
                 if (isIn(set, state) && who[state] == asWho && moves[state] < round) {
