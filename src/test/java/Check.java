@@ -6,6 +6,16 @@ final class Check {
     private Check() {
     }
 
+    /** A call of the class. */
+    interface Call {
+        long on(MireWrestle x);
+    }
+
+    /** A call of the class in which one number is still open. */
+    interface OpenCall {
+        long on(MireWrestle x, int number);
+    }
+
     static void due(String call, long got, long want) {
         calls++;
         if (got != want) {
@@ -33,17 +43,23 @@ final class Check {
         return new long[] {x.then(0), x.then(1), x.then(2), x.then(3), x.then(4), x.then(5)};
     }
 
-    /** All that told() tells, so that a refused call can be shown to change nothing. */
-    static String all(MireWrestle x) {
-        return allFrom(x, -1);
-    }
-
-    static String allFrom(MireWrestle x, int first) {
+    /** All that told() tells but how many signs the PAD has. */
+    static String told(MireWrestle x) {
         StringBuilder text = new StringBuilder();
-        for (int what = first; what <= 170; what++) {
-            text.append(x.told(what)).append(' ');
+        append(text, x, 1, 4);
+        append(text, x, 10, 19);
+        append(text, x, 20, 27);
+        append(text, x, 30, 35);
+        for (int grief = 0; grief < 6; grief++) {
+            append(text, x, 100 + 10 * grief, 101 + 10 * grief);
         }
         return text.toString();
+    }
+
+    private static void append(StringBuilder text, MireWrestle x, int first, int last) {
+        for (int what = first; what <= last; what++) {
+            text.append(x.told(what)).append(' ');
+        }
     }
 
     static void same(String call, String got, String want) {

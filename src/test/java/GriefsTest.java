@@ -38,14 +38,14 @@ public final class GriefsTest {
         Check.due("anew", x.grief(5, 7, 9), 2);
         Check.row("told", new long[] {x.told(1), x.told(100), x.told(101), x.told(150), x.told(151)},
             33, 99, 0, 7, 9);
-        String before = Check.all(x);
+        String before = Check.told(x);
         Check.due("grief(-1, 1, 1)", x.grief(-1, 1, 1), -1);
         Check.due("grief(6, 0, 256)", x.grief(6, 0, 256), -1);
         Check.due("strength 0", x.grief(0, 0, 1), -2);
         Check.due("strength 100", x.grief(0, 100, 1), -2);
         Check.due("shape -1", x.grief(0, 1, -1), -2);
         Check.due("shape 256", x.grief(0, 1, 256), -2);
-        Check.same("refused griefs", Check.all(x), before);
+        Check.same("refused griefs", Check.told(x), before);
     }
 
     private static void holds() {
@@ -53,7 +53,7 @@ public final class GriefsTest {
         Check.due("hold(5, 255, 20, 9)", x.hold(5, 255, 20, 9), 52);
         Check.due("hold(5, 0, 1, 1)", x.hold(5, 0, 1, 1), 255209);
         Check.due("hold(5, 3, 5, 2)", x.hold(5, 3, 5, 2), 11);
-        String before = Check.all(x);
+        String before = Check.told(x);
         Check.due("hold -1", x.hold(-1, 0, 1, 1), -1);
         Check.due("hold 6", x.hold(6, 256, 0, 0), -1);
         Check.due("grips -1", x.hold(0, -1, 1, 1), -2);
@@ -62,7 +62,7 @@ public final class GriefsTest {
         Check.due("force 21", x.hold(0, 1, 21, 1), -2);
         Check.due("takes 0", x.hold(0, 1, 1, 0), -2);
         Check.due("takes 10", x.hold(0, 1, 1, 10), -2);
-        Check.same("refused holds", Check.all(x), before);
+        Check.same("refused holds", Check.told(x), before);
     }
 
     private static void breath() {
@@ -79,13 +79,13 @@ public final class GriefsTest {
         Check.due("coat(7, 0, 23)", x.coat(7, 0, 23), 0);
         Check.due("coat(7, 23, 23)", x.coat(7, 23, 23), 23);
         Check.due("coat(7, 5, 6)", x.coat(7, 5, 6), 2323);
-        String before = Check.all(x);
+        String before = Check.told(x);
         Check.due("coat -1", x.coat(-1, 0, 0), -1);
         Check.due("coat 8", x.coat(8, 24, 0), -1);
         Check.due("a -1", x.coat(7, -1, 0), -2);
         Check.due("b 24", x.coat(7, 0, 24), -2);
         Check.due("b below a", x.coat(7, 5, 4), -2);
-        Check.same("refused coats", Check.all(x), before);
+        Check.same("refused coats", Check.told(x), before);
     }
 
     private static void moves() {
@@ -98,13 +98,13 @@ public final class GriefsTest {
         Check.due("none", x.move(0, 9, false), 2);
         Check.due("none again", x.move(0, 9, false), 2);
         Check.row("told of states", new long[] {x.told(10), x.told(13), x.told(19)}, 8, 0, 1);
-        String before = Check.all(x);
+        String before = Check.told(x);
         Check.due("one", x.move(4, 4, true), -1);
         Check.due("from -1", x.move(-1, 4, true), -1);
         Check.due("from 10", x.move(10, 4, true), -1);
         Check.due("to -1", x.move(4, -1, false), -1);
         Check.due("to 10", x.move(4, 10, true), -1);
-        Check.same("refused moves", Check.all(x), before);
+        Check.same("refused moves", Check.told(x), before);
     }
 
     private static void told() {

@@ -29,10 +29,10 @@ public final class ImagesTest {
         x.breath(17);
     }
 
-    /** All but how many signs the PAD has. */
+    /** All but the PAD. */
     private static String told(MireWrestle x) {
-        StringBuilder text = new StringBuilder(Check.allFrom(x, 1));
-        for (int i = -1; i < 256; i++) {
+        StringBuilder text = new StringBuilder(Check.told(x));
+        for (int i = -1; i < 32; i++) {
             text.append(x.shape(i)).append(' ');
         }
         return text.toString();

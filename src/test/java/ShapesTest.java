@@ -137,13 +137,13 @@ public final class ShapesTest {
         x.grief(0, 20, 3);
         x.grief(1, 10, 4);
         Check.write(x, "~");
-        String before = Check.all(x);
+        String before = Check.told(x);
         // x is 74, so y is 9: HOLD 3 on GRIEF 1; then x is 5624, y 703: HOLD 1 on GRIEF 3
         Check.row("an act", year(x, 0, 1), 2, 48, 25);
         Check.row("one that can not be", year(x, 0, 2), 2, 48, 25);
         // x is 299, y is 37: HOLD 1 on GRIEF 0
         Check.row("another seed", year(x, 3, 1), 2, 48, 25);
-        Check.same("year", Check.all(x), before);
+        Check.same("year", Check.told(x), before);
         Check.row("refused", new long[] {x.year(-1, 1, 0), x.year(10000, 1, 0), x.year(0, 0, 0),
             x.year(0, 100, 0), x.year(0, 1, -1), x.year(0, 1, 3)}, -2, -2, -2, -2, -2, -2);
     }
